@@ -409,6 +409,9 @@ public final class ChangesCasesTest extends Cases {
         LinkRewirer row = grid(7, 1);
         row.set(3, seedFor(4, 0));
         due("drawLink(5, 0) with the number 0", row.drawLink(5, 0), 0);
+        row.undo();
+        row.set(3, seedFor(4, 3));
+        due("drawLink(5, 0) with the number 3", row.drawLink(5, 0), 3);
         row.set(3, seedFor(4, 3));
         due("drawLink(1, 0) with the number 3", row.drawLink(1, 0), 6);
     }
