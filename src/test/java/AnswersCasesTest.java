@@ -176,6 +176,32 @@ public final class AnswersCasesTest extends Cases {
         return maze;
     }
 
+    void promise14_greatestWayByLinksBetweenStairs() {
+        LinkRewirer stairs = stairs();
+        due("node(1, 5)", stairs.node(1, 5), 32);
+        due("node(1, 6)", stairs.node(1, 6), 32);
+        due("node(48, 5)", stairs.node(48, 5), 0);
+        due("node(48, 6)", stairs.node(48, 6), 0);
+    }
+
+    /**
+     * Five stairs that are no neighbors of each other, of 3, 9, 13, 7 and 1 nodes, and a long link from the end of
+     * each to the begin of the next one: the only path from node 1 to node 48 leads through all 33 nodes.
+     */
+    private static LinkRewirer stairs() {
+        LinkRewirer stairs = grid(7, 7);
+        for (int u = 0; u < 49; u++) {
+            if ((u % 7 + u / 7) % 3 == 2) {
+                stairs.leave(u);
+            }
+        }
+        stairs.link(7, 28);
+        stairs.link(4, 6);
+        stairs.link(42, 45);
+        stairs.link(27, 48);
+        return stairs;
+    }
+
     // Promise 15: "k: the index of the link, 0 for the oldest one", "NONE if it has not so many; BAD if there is no
     // such node or k is negative"
 
@@ -395,6 +421,7 @@ public final class AnswersCasesTest extends Cases {
     void promise18_greatestWay() {
         due("way(0, 48)", grid(7, 7).way(0, 48), 12);
         due("way(0, 6) around walls", maze().way(0, 6), 30);
+        due("way(1, 48) over all stairs", stairs().way(1, 48), 32);
     }
 
     // Promise 19: "1 if both are the same, 0 if there is none"
@@ -445,6 +472,31 @@ public final class AnswersCasesTest extends Cases {
     void promise19_mostOnTheGrid() {
         due("paths(0, 48)", grid(7, 7).paths(0, 48), 924);
         due("paths(42, 6)", grid(7, 7).paths(42, 6), 924);
+    }
+
+    /** Without its odd nodes no node has a neighbor; the even ones link in layers
+     * of three, each to all of the next layer. */
+    void promise19_moreThanOnTheGrid() {
+        LinkRewirer layers = grid(7, 7);
+        layers.set(0, 3);
+        for (int u = 1; u < 49; u += 2) {
+            layers.leave(u);
+        }
+        for (int i = 0; i < 3; i++) {
+            layers.link(0, 2 + 2 * i);
+            layers.link(38 + 2 * i, 48);
+            for (int u = 2; u < 38; u++) {
+                if (u % 2 == 0) {
+                    int layer = (u - 2) / 6;
+                    layers.link(u, 2 + 6 * (layer + 1) + 2 * i);
+                }
+            }
+        }
+        due("told(3)", layers.told(3), 3 + 6 * 9 + 3);
+        due("way(0, 48)", layers.way(0, 48), 8);
+        due("paths(0, 48)", layers.paths(0, 48), 3 * 3 * 3 * 3 * 3 * 3 * 3);
+        due("paths(2, 48)", layers.paths(2, 48), 3 * 3 * 3 * 3 * 3 * 3);
+        due("paths(48, 0)", layers.paths(48, 0), 0);
     }
 
     // Promise 20: "BAD if what is out of range" and "(0 if there are none)"
@@ -500,6 +552,16 @@ public final class AnswersCasesTest extends Cases {
         due("measure(2)", maze.measure(2), 30);
         due("measure(0)", maze.measure(0), 31 * 30);
         due("measure(1)", maze.measure(1), 31 * 30);
+        due("measure(3)", maze.measure(3), 31 * 30 * 32 / 3);
+    }
+
+    void promise20_waysOverStairs() {
+        LinkRewirer stairs = stairs();
+        due("measure(0)", stairs.measure(0), 33 * 32);
+        // forward all pairs, backward those on the same stairs
+        due("measure(1)", stairs.measure(1), 33 * 32 / 2 + 3 + 36 + 78 + 21);
+        due("measure(2)", stairs.measure(2), 32);
+        due("measure(3)", stairs.measure(3), 33 * 32 * 34 / 6 + 4 + 120 + 364 + 56);
     }
 
     // Promise 21: "Returns the mean, 0.0 if there are no such lookups."

@@ -38,7 +38,7 @@ public final class RandomRunsTest {
     }
 
     private int go() {
-        for (int i = 0; i < CALLS && check.wrong() == 0; i++) {
+        for (int i = run % 3 == 0 ? thin() : 0; i < CALLS && check.wrong() == 0; i++) {
             if (random.nextInt(3) == 0) {
                 look(i);
             } else {
@@ -46,6 +46,25 @@ public final class RandomRunsTest {
             }
         }
         return check.wrong();
+    }
+
+    /**
+     * Begins on a grid without every second or third of the diagonals, where ways are long and many lookups fail,
+     * and answers how many calls that took.
+     */
+    private int thin() {
+        int columns = size - random.nextInt(2);
+        int apart = 2 + random.nextInt(2);
+        int calls = 2;
+        check.due(call(0, "begin", columns, size), x.begin(columns, size), y.begin(columns, size));
+        check.due(call(1, "set", 0, 3), x.set(0, 3), y.set(0, 3));
+        for (int u = 0; u < columns * size; u++) {
+            if ((u % columns + u / columns) % apart == 1) {
+                check.due(call(calls, "leave", u), x.leave(u), y.leave(u));
+                calls++;
+            }
+        }
+        return calls;
     }
 
     /** A number from 0 to most, or now and then an odd one. */

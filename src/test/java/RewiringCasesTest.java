@@ -60,6 +60,11 @@ public final class RewiringCasesTest extends Cases {
         x.set(0, 2);
         due("link(0, 9), three of two", x.link(0, 9), 3);
         duesTargets(x, 0, 7, 8, 9);
+        x.link(1, 5);
+        x.link(1, 6);
+        x.set(0, 1);
+        due("link(1, 7), two of one", x.link(1, 7), 2);
+        duesTargets(x, 1, 6, 7);
     }
 
     void rewiring_limitOneKeepsTheNewest() {
